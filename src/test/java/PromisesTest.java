@@ -230,6 +230,13 @@ public final class PromisesTest {
         fault("turn r<1", 5);
         fault("skip 1 r<1", 5);
         fault("skip  r<1", 5);
+        fault("turn 1 !!!!!!r<1", 12);
+        fault("lean 1 ((((((r<1", 12);
+        fault("catch /", 6);
+        fault("catch :", 6);
+        fault("catch 1/", 7);
+        fault("catch 1:", 7);
+        fault("skip r</", 7);
         fault("skip r", 6);
         fault("skip r1", 6);
         fault("skip r<", 7);
@@ -504,6 +511,16 @@ public final class PromisesTest {
         due("one again", x.differ(), -5);
         x.counts(0, 0, 7, 3);
         due("two alike", x.differ(), 0);
+        x.hand(1, 0);
+        x.counts(5, 0, 4, 1);
+        due("428 and 250, six HANDS", x.differ(), 178);
+        x.counts(4, 0, 0, 0);
+        due("428 and 250, the first and the sixth", x.differ(), 178);
+        for (int k = 1; k < 6; k++) x.coin(0, 0);
+        x.counts(5, 5, 4, 4);
+        due("428 and 625, six COINS", x.differ(), 197);
+        due("of(5, 3), six COINS", x.of(5, 3), 8);
+        due("of(4, 3), six COINS", x.of(4, 3), 0);
     }
 
     private static void fars() {
@@ -545,6 +562,12 @@ public final class PromisesTest {
         // 80 of 100 twice of two: 64 of 100; an even one: 25 of 100
         due("need(80, 64, 25)", x.need(80, 64, 25), 22);
         due("need(80, 65, 25)", x.need(80, 65, 25), 54);
+        // 83 of 100 twice of two: 68.89 of 100
+        due("need(83, 68, 25)", x.need(83, 68, 25), 22);
+        due("need(83, 69, 25)", x.need(83, 69, 25), 54);
+        // 7 or more of 8, an even one: 9 of 256
+        due("need(90, 80, 4)", x.need(90, 80, 4), 87);
+        due("need(90, 82, 3)", x.need(90, 82, 3), -5);
         due("need(0, 0, 0)", x.need(0, 0, 0), -5);
         due("need(100, 100, 1)", x.need(100, 100, 1), 77);
         due("need(100, 1, 0)", x.need(100, 1, 0), -5);
@@ -720,6 +743,8 @@ public final class PromisesTest {
         actIs(x, 7, 1, 14, 2, 51, 11, 1);
         // 4 * 3 + 7 is 19, and 19 ^ 7 is 20; less 3, twice: 34; 6 + 7 is 13, and 13 ^ 7 is 10
         actIs(x, 7, 2, 44, 41, 3, 2, 51, 11, 1, 51, 11, 1);
+        // 6 + 6 less 3, twice: 18
+        due("act(6, 2, 6)", x.act(6, 2, 6), 18 ^ 7);
         due("trace(-1)", x.trace(-1), NONE);
         due("trace(20)", x.trace(20), NONE);
         due("act(1, 0, max)", x.act(1, 0, Integer.MAX_VALUE), Integer.MIN_VALUE);
@@ -804,12 +829,41 @@ public final class PromisesTest {
         due("counts(1, 1, 2, 2)", x.counts(1, 1, 2, 2), 1);
         due("undo(), at once", x.undo(), 2);
         due("counts(1, 1, 2, 2), as before", x.counts(1, 1, 2, 2), 1);
+        keptTape();
+        keptRow();
         HeadsByHair y = new HeadsByHair();
         due("image() of nothing", y.image(), 0);
         y.hand(1, 1);
         y.coin(1, 1);
         due("undo() to nothing", y.undo(), 0);
         due("count(0)", y.count(0), 0);
+    }
+
+    /** Bytes that came over those of THE IMAGE since do not stay. */
+    private static void keptTape() {
+        HeadsByHair x = new HeadsByHair();
+        feed(x, "catch 4");
+        x.image();
+        due("law", x.law(1, 2), 0);
+        feed(x, "skip r<12");
+        x.undo();
+        due("law of the tape that was written over", x.law(1, 2), 0);
+        due("told(0, 2)", x.told(0, 2), 4);
+        x.undo();
+        due("law once more", x.law(1, 2), 0);
+        due("told(0, 2)", x.told(0, 2), 4);
+    }
+
+    private static void keptRow() {
+        HeadsByHair x = new HeadsByHair();
+        fillRow(x, "0101");
+        x.image();
+        fillRow(x, "1111");
+        x.undo();
+        due("RUNS of the ROW that was written over", x.runs(0), 4);
+        fillRow(x, "000000");
+        x.undo();
+        due("LONGEST of it", x.runs(1), 1);
     }
 
     private static void counting() {
