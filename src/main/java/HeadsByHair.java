@@ -549,16 +549,14 @@ public final class HeadsByHair {
 
         /** No two words begin alike, so the first letter tells which rest must follow. */
         private boolean readsClause() {
-            if (passes('t')) return passesAll("urn ") && readsNumberWhen(TURN);
-            if (passes('l')) return passesAll("ean ") && readsNumberWhen(LEAN);
             if (passes('s')) return passesAll("kip ") && readsAny(0) && adds(SKIP, 0);
-            if (!passes('c') || !passesAll("atch ") || !readsNumber()) return false;
-            caught = number;
-            return true;
-        }
-
-        private boolean readsNumberWhen(int sort) {
-            if (!readsNumber() || !passes(' ')) return false;
+            if (passes('c')) {
+                if (!passesAll("atch ") || !readsNumber()) return false;
+                caught = number;
+                return true;
+            }
+            int sort = passes('t') ? TURN : LEAN;
+            if (!passesAll(sort == TURN ? "urn " : "lean ") || !readsNumber() || !passes(' ')) return false;
             int n = number;
             return readsAny(0) && adds(sort, n);
         }
@@ -581,17 +579,10 @@ public final class HeadsByHair {
             return isGood;
         }
 
-        /** F, likewise. */
+        /** F, likewise; where no more may be open, only a TEST can go on. */
         private boolean readsOne(int open) {
-            int next = nextByte();
-            if (next != '!' && next != '(') return readsTest();
-            if (open >= MOST_OPEN) return false;
-            place++;
-            if (next == '!') return readsOne(open + 1) && adds(NOT, 0);
-            return readsAny(open + 1) && passes(')');
-        }
-
-        private boolean readsTest() {
+            if (open < MOST_OPEN && passes('!')) return readsOne(open + 1) && adds(NOT, 0);
+            if (open < MOST_OPEN && passes('(')) return readsAny(open + 1) && passes(')');
             int letter = LETTERS.indexOf((char) nextByte());
             if (letter < 0) return false;
             place++;
