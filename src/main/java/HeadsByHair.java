@@ -481,9 +481,9 @@ public final class HeadsByHair {
             return sum;
         }
 
-        /** How many RISES a HAND may make, equal ones counted each; odd, so never 0. */
+        /** How many RISES a HAND may make, equal ones counted each; 1 at least, as others divide by it. */
         private int rises(int hand) {
-            return 2 * wandering[hand] + 1;
+            return Math.max(1, 2 * wandering[hand] + 1);
         }
 
         private void becomes(Stock other) {

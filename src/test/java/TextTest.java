@@ -172,7 +172,7 @@ public final class TextTest {
         Check.sentence("of several faults the first one");
         Check.fault("turn x y", 5);
         Check.fault("lean 1 r<x;y", 9);
-        String most = longLaw();
+        String most = Check.LONG_LAW;
         Check.sentence("THE TAPE (bytes, 120 at most)");
         Check.due("size of the long LAW", most.length(), 120);
         Check.good(most);
@@ -185,11 +185,6 @@ public final class TextTest {
         Check.fault(shorter + ";cat", 120);
         Check.fault(shorter + "|t>;", 119);
         Check.fault("x".repeat(120), 0);
-    }
-
-    /** 120 bytes. */
-    static String longLaw() {
-        return "turn 10 " + Check.times(26, "t=1", "|") + "|t=20|t>2";
     }
 
     public static void main(String[] args) {

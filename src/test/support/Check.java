@@ -11,6 +11,9 @@ final class Check {
     /** Likewise its BEND. */
     static final String BEND_LAW = EDGE_LAW.replace('e', 'b');
 
+    /** 120 bytes. */
+    static final String LONG_LAW = "turn 10 " + times(26, "t=1", "|") + "|t=20|t>2";
+
     private static int asked = 0, wrong = 0;
     private static String sentence = "";
 
