@@ -29,7 +29,7 @@ public final class HeadsByHair {
     private final Stock now = new Stock();
     private final Stock kept = new Stock();
     private boolean isKept;
-    private final Reader reader = new Reader(now.tape);
+    private final Reader reader = new Reader();
     private final Flight flight = new Flight();
     private final Trace latest = new Trace();
 
@@ -92,7 +92,7 @@ public final class HeadsByHair {
         if (!isWithin(kind, 0, KINDS - 1)) return NONE;
         if (!isWithin(v, 0, MOST_DIGIT)) return BAD;
         if (now.laws >= MOST_LAWS) return FULL;
-        boolean isLaw = reader.reads(now.bytes);
+        boolean isLaw = reader.reads(now.tape, now.bytes);
         now.bytes = 0;
         if (!isLaw) return -10 - reader.place;
         now.law[now.laws] = newLaw(kind, now.laws, v);
@@ -526,15 +526,12 @@ public final class HeadsByHair {
      * behind what it joins, and then what the clause does.
      */
     private static final class Reader {
-        private final int[] tape;
+        private int[] text = new int[0];
         private final int[] steps = new int[MOST_BYTES];
         private int size, place, stepCount, number, caught;
 
-        private Reader(int[] tape) {
-            this.tape = tape;
-        }
-
-        private boolean reads(int bytes) {
+        private boolean reads(int[] tape, int bytes) {
+            text = tape;
             size = Math.min(bytes, tape.length);
             place = 0;
             stepCount = 0;
@@ -607,7 +604,7 @@ public final class HeadsByHair {
 
         /** The byte at the place; 0, which no LAW has, at the end. */
         private int nextByte() {
-            return place < size ? tape[place] : 0;
+            return place < size ? text[place] : 0;
         }
 
         private boolean passes(char due) {
